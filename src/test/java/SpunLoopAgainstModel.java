@@ -21,6 +21,7 @@ public final class SpunLoopAgainstModel {
     public static void main(String[] args) {
         for (int run = 0; run < RUNS && wrong < 20; run++) {
             new SpunLoopAgainstModel(run).go();
+            new SpunLoopAgainstModel(RUNS + run).seek();
         }
         System.out.println(wrong == 0 ? "program and model agree" : wrong + " answers differ");
         if (wrong != 0) {
@@ -69,6 +70,50 @@ public final class SpunLoopAgainstModel {
             for (int k = 0; k < 76; k++) {
                 feed("        ");
             }
+        }
+    }
+
+    /** Loops that are well spun, at the edge of what their spin keeps open, and what is sought from there. */
+    private void seek() {
+        StringBuilder text = new StringBuilder();
+        things(text, "rope", random.nextInt(3) == 0 ? 40 + upTo(360) : 400, random.nextInt(3) == 0 ? upTo(9) : 8 + upTo(1),
+            random.nextInt(4) == 0 ? 1 : 0);
+        things(text, "horse", upTo(2), upTo(20), random.nextInt(2) == 0 ? 0 : upTo(3));
+        for (int b = 0; b < 1 + upTo(1); b++) {
+            things(text, "beast", 10 + upTo(60), upTo(3), 1 + upTo(60), 1 + upTo(4), upTo(8));
+        }
+        things(text, "rule", 1 + upTo(60), upTo(20), upTo(20), upTo(9));
+        tell(text.toString());
+        for (int k = 0; k < 12; k++) {
+            climb();
+            for (int j = 0; j < 3; j++) {
+                int size = (int) Math.max(1, Math.min(200, model.now(0) + 1 + upTo(70)));
+                int n = random.nextInt(60) == 0 ? 12 : upTo(7);
+                same("fewest " + size + " " + n, program.fewest(size, n), model.fewest(size, n));
+            }
+            int n = 1 + upTo(3);
+            for (int i = -1; i < n; i++) {
+                same("moves " + n + " " + i, program.moves(n, i), model.moves(n, i));
+            }
+            if (random.nextInt(3) == 0) {
+                same("close", program.close(), model.close());
+            }
+        }
+    }
+
+    private void climb() {
+        if (isFallen()) {
+            same("close", program.close(), model.close());
+        }
+        int ticks = 1 + upTo(12);
+        int let = random.nextInt(3) == 0 ? 9 : upTo(9);
+        for (int k = 0; k < ticks && !isFallen(); k++) {
+            long spin = model.now(1);
+            int up = random.nextInt(6) == 0 ? 1 + upTo(2) : spin <= model.need((int) model.now(0)) ? 4 : 2 + upTo(1);
+            int turn = (int) Math.min(15, Math.max(0, spin + up - 2));
+            // The last of a climb may let out too much, so that the spin lacks.
+            int out = k == ticks - 1 ? upTo(9) : let;
+            same("tick", program.tick(0, up, out, turn), model.tick(0, up, out, turn));
         }
     }
 
