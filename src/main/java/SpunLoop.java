@@ -392,7 +392,7 @@ public final class SpunLoop {
         if (!hasAct(act) || !within(what, 0, 1)) {
             return BAD;
         }
-        return what == 0 ? asker.sizeOfAct(scene.way, act) : asker.markOfAct(scene.way, act);
+        return what == 0 ? asker.sizeOf(scene.way, act) : asker.markOf(scene.way, act);
     }
 
     public int trace(int i) {
@@ -628,7 +628,7 @@ public final class SpunLoop {
         }
 
         int howMany(int sort) {
-            return isSort(sort) ? counts[sort] : 0;
+            return sort >= 0 && sort < SORTS ? counts[sort] : 0;
         }
 
         boolean has(int sort, int i) {
@@ -636,7 +636,7 @@ public final class SpunLoop {
         }
 
         boolean isFull(int sort) {
-            return !isSort(sort) || counts[sort] >= ROOM[sort];
+            return sort < 0 || sort >= SORTS || counts[sort] >= ROOM[sort];
         }
 
         void add(int sort) {
@@ -647,13 +647,17 @@ public final class SpunLoop {
 
         /** 0 where there is no such thing: a horse that was not told has no lag, nearness, shake. */
         int value(int sort, int i, int field) {
-            return isPlace(sort, i, field) ? values[(FIRST[sort] + i) * WIDTH + field] : 0;
+            if (sort < 0 || sort >= SORTS || i < 0 || i >= ROOM[sort] || field < 0 || field >= WIDTH) {
+                return 0;
+            }
+            return values[(FIRST[sort] + i) * WIDTH + field];
         }
 
         void put(int sort, int i, int field, int v) {
-            if (isPlace(sort, i, field)) {
-                values[(FIRST[sort] + i) * WIDTH + field] = v;
+            if (sort < 0 || sort >= SORTS || i < 0 || i >= ROOM[sort] || field < 0 || field >= WIDTH) {
+                return;
             }
+            values[(FIRST[sort] + i) * WIDTH + field] = v;
         }
 
         int kindOf(int act) {
@@ -690,14 +694,6 @@ public final class SpunLoop {
                 }
             }
             return thrown;
-        }
-
-        private static boolean isSort(int sort) {
-            return sort >= 0 && sort < SORTS;
-        }
-
-        private static boolean isPlace(int sort, int i, int field) {
-            return isSort(sort) && i >= 0 && i < ROOM[sort] && field >= 0 && field < WIDTH;
         }
     }
 
@@ -998,20 +994,18 @@ public final class SpunLoop {
             return kinked || size <= 0;
         }
 
-        static int topOf(int tired) {
-            return Math.max(1, 15 - tired / 64);
-        }
-
         static int turned(int spin, int up, int tired) {
-            return Math.min(topOf(tired), Math.max(0, spin + up - 2));
+            int top = Math.max(1, 15 - tired / 64);
+            return Math.min(top, Math.max(0, spin + up - 2));
         }
 
+        /** What the spin will be; a hand that turns by as much leaves the twist as it is. */
         int spinBy(int up) {
             return turned(spin, up, tired);
         }
 
         void advance(Scene scene, boolean standing, int up, int let, int turn) {
-            spin = spinBy(up);
+            spin = turned(spin, up, tired);
             int lacks = scene.needOf(size) + (standing ? 2 : 0) - spin;
             if (lacks <= 0) {
                 size = Math.min(scene.room(), size + let * spin / 8);
@@ -1023,11 +1017,6 @@ public final class SpunLoop {
             tick++;
             kinked = Math.abs(twist) > scene.limit();
             why = reason(lacks > 0, size == scene.room());
-        }
-
-        /** A tick of spin that turns with the loop, so that the twist stays. */
-        void advanceEven(Scene scene, int up, int let) {
-            advance(scene, false, up, let, spinBy(up));
         }
 
         private int reason(boolean lacking, boolean full) {
@@ -1440,17 +1429,17 @@ public final class SpunLoop {
                 // A tick that leads where an earlier one led can't be the first of the best.
                 if (here.spinBy(u + 1) != spin) {
                     spin = here.spinBy(u + 1);
-                    tryLets(scene, depth, u);
+                    tryLets(scene, depth, u, spin);
                 }
             }
         }
 
-        private void tryLets(Scene scene, int depth, int u) {
+        private void tryLets(Scene scene, int depth, int u, int turn) {
             Loop next = loops[depth + 1];
             int size = -1;
             for (int l = 0; l <= 1; l++) {
                 next.copyFrom(loops[depth]);
-                next.advanceEven(scene, u + 1, 4 + 4 * l);
+                next.advance(scene, false, u + 1, 4 + 4 * l, turn);
                 if (next.size != size) {
                     size = next.size;
                     offer(depth, 2 * u + l, seekFrom(scene, depth + 1));
@@ -1484,23 +1473,16 @@ public final class SpunLoop {
             return worth;
         }
 
+        /** Odds are weighed once for all loops of a depth and a spin: of one depth all have the same tick. */
         private int worthOf(Scene scene, int depth, int how, int beast) {
             Loop loop = loops[depth];
-            boolean good = !loop.hasFallen() && loop.size >= likelyFrom(scene, depth, how, beast);
-            return scene.way.pointsFor(how, loop.tick, good);
-        }
-
-        /** Weighed once for all loops of a depth and spin: of one depth all have the same tick. */
-        private int likelyFrom(Scene scene, int depth, int how, int beast) {
-            Loop loop = loops[depth];
             int at = ((depth * Way.MOST_BEASTS + beast) * 2 + how) * SPINS + loop.spin;
-            if (at < 0 || at >= likely.length) {
-                return Toss.NEVER;
-            }
-            if (likely[at] == UNKNOWN) {
+            boolean known = at >= 0 && at < likely.length;
+            if (known && likely[at] == UNKNOWN) {
                 likely[at] = toss.likelyFrom(scene, loop.tick, loop.spin, how, beast);
             }
-            return likely[at];
+            boolean good = known && !loop.hasFallen() && loop.size >= likely[at];
+            return scene.way.pointsFor(how, loop.tick, good);
         }
 
         /** A move at a depth, with the row that was found behind it. */
@@ -1759,7 +1741,8 @@ public final class SpunLoop {
             loop.begin();
             for (int k = 0; k < n; k++) {
                 if (!loop.hasFallen()) {
-                    loop.advanceEven(scene, 1 + hand / 3, 4 * (hand % 3));
+                    int up = 1 + hand / 3;
+                    loop.advance(scene, false, up, 4 * (hand % 3), loop.spinBy(up));
                 }
                 if (loop.size != rows.itemAt(row, i + k)) {
                     return false;
@@ -1772,21 +1755,9 @@ public final class SpunLoop {
     /** Asks of acts, body by body, and the trace of those that began. */
     private static final class Asker {
         private static final int LONGEST_TRACE = 16;
-        /** Of one ask no more bodies stand open than this, by what the bodies say. */
-        private static final int DEEPEST = 8;
 
         private final int[] trace = new int[LONGEST_TRACE];
         private int begun;
-
-        int sizeOfAct(Way way, int act) {
-            begun = 0;
-            return sizeOf(way, act, 0);
-        }
-
-        int markOfAct(Way way, int act) {
-            begun = 0;
-            return markOf(way, act, 0);
-        }
 
         int begunAt(int i) {
             return i >= 0 && i < begun ? trace[i] : NONE;
@@ -1799,10 +1770,8 @@ public final class SpunLoop {
             }
         }
 
-        private int sizeOf(Way way, int act, int depth) {
-            if (depth > DEEPEST) {
-                return 0;
-            }
+        int sizeOf(Way way, int act) {
+            begun = 0;
             switch (way.kindOf(act)) {
                 case Way.SPUN:
                     return body11(way, act);
@@ -1811,19 +1780,17 @@ public final class SpunLoop {
                 case Way.THROWN:
                     return body13(way, act);
                 case Way.EDGED:
-                    return body14(way, act, depth);
+                    return body14(way, act);
                 default:
                     return body10();
             }
         }
 
-        private int markOf(Way way, int act, int depth) {
-            if (depth > DEEPEST) {
-                return 0;
-            }
+        int markOf(Way way, int act) {
+            begun = 0;
             switch (way.kindOf(act)) {
                 case Way.SPUN:
-                    return body22(way, act, depth);
+                    return body22(way, act);
                 case Way.STANDING:
                     return body21(way, act);
                 case Way.EDGED:
@@ -1856,10 +1823,11 @@ public final class SpunLoop {
             return body10() + way.value(Way.BEAST, beast, Way.FAR);
         }
 
-        private int body14(Way way, int act, int depth) {
+        private int body14(Way way, int act) {
             begin(14);
             int given = body13(way, act);
-            return given - markOf(way, act, depth + 1);
+            // No kind is narrower than EDGED, so MARK of the same act can begin with 24 alone.
+            return given - body24(act);
         }
 
         private int body20(int act) {
@@ -1872,10 +1840,11 @@ public final class SpunLoop {
             return body20(act) + way.value(Way.ACT, act, Way.LET);
         }
 
-        private int body22(Way way, int act, int depth) {
+        private int body22(Way way, int act) {
             begin(22);
             int given = body21(way, act);
-            return given + sizeOf(way, act, depth + 1);
+            // No kind is narrower than SPUN, so SIZE of the same act can begin with 11 alone.
+            return given + body11(way, act);
         }
 
         private int body23(int act) {
