@@ -740,8 +740,6 @@ public final class SpunLoop {
             0, 0, 0, 0, 0,
             0, 0, 0, 0, 0,
             0, 0, 0, 0, 0};
-        /** More than any number may be: what a number of too many figures counts as. */
-        private static final int TOO_MUCH = 1000;
         private static final int MOST_FIGURES = 3;
 
         private final byte[] tape = new byte[TAPE];
@@ -879,12 +877,15 @@ public final class SpunLoop {
         }
 
         private void takeNumber() {
-            token = NUMBER;
             number = 0;
             while (end < length && isFigure(end)) {
-                number = end - begin < MOST_FIGURES ? number * 10 + tape[end] - '0' : TOO_MUCH;
+                if (end - begin < MOST_FIGURES) {
+                    number = number * 10 + tape[end] - '0';
+                }
                 end++;
             }
+            // More figures than a number may have are no number, nor several: they are no token.
+            token = end - begin <= MOST_FIGURES ? NUMBER : NO_TOKEN;
         }
 
         private boolean isLetter(int at) {

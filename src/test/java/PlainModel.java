@@ -234,7 +234,7 @@ final class PlainModel {
                 found.add(new Token('n', name, i));
                 i += name.length();
             } else if (!figures.isEmpty()) {
-                found.add(new Token('9', figures, i));
+                found.add(new Token(figures.length() <= 3 ? '9' : '?', figures, i));
                 i += figures.length();
             } else {
                 found.add(new Token(c == ';' ? ';' : '?', "" + c, i));
@@ -266,9 +266,6 @@ final class PlainModel {
             Token t = here();
             if (t.type != '9') {
                 throw new Fault(1, t.place);
-            }
-            if (t.text.length() > 3) {
-                throw new Fault(2, t.place);
             }
             int v = Integer.parseInt(t.text);
             if (v < low || v > high) {

@@ -297,10 +297,22 @@ public final class SpunLoopPromises {
         fault("rope -40 0 0;", 5, 1);
         fault("rope 39 0 0;", 5, 2);
         fault("rope 401 0 0;", 5, 2);
-        fault("rope 0040 0 0;", 5, 2);
+        // A row of more than 3 figures is no token, wherever it stands and whatever it would tell.
+        fault("rope 0040 0 0;", 5, 1);
+        fault("rope 4010005\0\0\0\0", 5, 1);
+        fault("rope 1000 0 0;", 5, 1);
+        fault("rope 40 0000 0;", 8, 1);
+        fault("rope 40 0 0001;", 10, 1);
         fault("rope 40 0 0;1234", 12, 1);
         fault("rope 40 0 0 1234;", 12, 1);
-        fault("rope 99999999999 0 0;", 5, 2);
+        fault("rope 99999999999 0 0;", 5, 1);
+        fault("rope0040 0 0;", 4, 1);
+        fault("rope 999 0 0;", 5, 2);
+        fault("rope 000 0 0;", 5, 2);
+        fault("rope 39 0000 0;", 5, 2);
+        fault(r + "flat 0000;", 17, 1);
+        fault(r + "form 5 0004 0 0;", 19, 1);
+        fault(r + "spin 1 0 0 1000;", 23, 1);
         fault("rope 40 0 2;", 10, 2);
         fault("rope 39 #", 5, 2);
         fault(r + "horse 0 0;", 21, 1);
