@@ -357,7 +357,7 @@ final class LoopEdges extends Edges {
             due(x.tick(0, 2, 0, 9), 4);
         });
         test(11, "it is KINKED", () -> {
-            // By stand, too: 2 by 2, then 6 by 2 more and more.
+            // By stand, too: 6 by 2 is 3 more each time, then 1 by 2, which is none, then 2 by 2.
             SpunLoop x = spun(read(SOFT), 0, 2, 4, 6);
             for (int k = 0; k < 8; k++) {
                 due(x.tick(1, 2, 0, 0), 0);
@@ -788,7 +788,15 @@ final class LoopEdges extends Edges {
             oddsAre(atTen("beast 20 0 72 2 0;"), 1, 0, 0, 1);
         });
         test(16, "SHUT, KINKED", () -> {
-            SpunLoop x = kinkedWithBeast();
+            // Also where it was sure a TICK ago.
+            SpunLoop x = atTen("horse 20 0 0;beast 1 0 1 1 0;");
+            oddsAre(x, 0, 0, 1, 1);
+            for (int k = 0; k < 7; k++) {
+                x.tick(0, 2, 0, 0);
+            }
+            due(x.now(5), 1);
+            oddsAre(x, 0, 0, 0, 1);
+            x = kinkedWithBeast();
             oddsAre(x, 0, 0, 0, 1);
             oddsAre(x, 1, 0, 0, 1);
             x = read(WET + "horse 20 0 3;beast 1 0 1 1 0;");

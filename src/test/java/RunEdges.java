@@ -97,6 +97,8 @@ final class RunEdges extends Edges {
         test(21, "6 by how much that THROW MISSED (0: it did not; NONE: no THROW)", () -> {
             // t is 2: flat leaves 31 less WIDE.
             due(read(STIFF + "beast 20 0 31 1 12;" + SPUN + "flat 0;").told(1, 6), 0);
+            due(read(STIFF + "beast 20 0 30 1 12;" + SPUN + "flat 0;").told(1, 6), 0);
+            due(read(STIFF + "beast 1 0 1 1 0;" + SPUN + "edge 0;").told(1, 6), 0);
             due(read(STIFF + "beast 20 0 32 1 0;" + SPUN + "flat 0;").told(1, 6), 1);
             due(read(STIFF + "beast 20 0 71 1 0;" + SPUN + "edge 0;").told(1, 6), 0);
             due(read(STIFF + "beast 20 0 72 1 0;" + SPUN + "edge 0;").told(1, 6), 1);
@@ -172,6 +174,12 @@ final class RunEdges extends Edges {
         test(22, "a lower number above 1000000000000", () -> {
             // 0 by 1 from the first THROW on is never too fine.
             allAre(read(STIFF + "horse 0 0 2;beast 2 0 10 1 6;beast 200 0 1 1 0;flat 1;" + "flat 0;".repeat(13)), 0, 1);
+            // Nor is the next way, behind one that was.
+            SpunLoop x = read(TENTH + "flat 0;".repeat(13));
+            allAre(x, NONE, NONE);
+            feed(x, TENTH + "flat 0;flat 0;");
+            x.way();
+            allAre(x, 1, 100);
             // What was too fine once stays so: one by one, nothing brings it back.
             allAre(read(STIFF + "horse 0 0 2;beast 2 0 10 1 6;beast 200 0 1 1 0;" + "flat 0;".repeat(13) + "flat 1;"),
                 NONE, NONE);
@@ -203,6 +211,13 @@ final class RunEdges extends Edges {
             due(read(STIFF).score(), 0);
             due(read(STIFF + SPUN).score(), 0);
         });
+        test(23, "SHUT, KINKED", () -> {
+            // A sure one, then one from a loop that is SHUT, then a sure one.
+            String text = AT_HAND + "rule 99 5 7 2;close;flat 0;spin 9 0 0 0;flat 0;flat 0;";
+            due(read(STIFF + text).score(), 5 - 2 + 5);
+            due(read(STIFF + text).all(0), 0);
+            due(read(STIFF + text).all(1), 1);
+        });
         test(23, "SCORE: HEAD (flat), FEET (edge) for each THROW", () -> {
             due(read(STIFF + AT_HAND + "rule 99 5 7 2;close;flat 0;").score(), 5);
             due(read(STIFF + AT_HAND + "rule 99 5 7 2;close;edge 0;").score(), 7);
@@ -218,7 +233,7 @@ final class RunEdges extends Edges {
             due(read(STIFF + "horse 20 0 0;beast 1 0 1 1 7;" + close + "flat 0;").score(), -2);
             // GAIT 2, t 1: 4 by 12.
             due(read(STIFF + "horse 20 0 0;beast 1 0 1 2 0;" + close + "edge 0;").score(), -2);
-            // SPINS 0, 0, 1 at D 1: 1 by 3; by a SHAKE of 3 and PACE 0 three of seven, just less than a half.
+            // By a SHAKE of 3 from SPIN 0 three of seven reach it, just less than a half.
             due(read(STIFF + "horse 0 0 3;beast 1 0 1 1 0;rule 99 5 7 2;flat 0;").score(), -2);
             // Four of seven are more than a half: SPIN 1, so that 1, 2, 3, 4 reach it.
             due(read(STIFF + "horse 0 0 3;beast 1 0 1 1 0;rule 99 5 7 2;spin 1 3 0 0;flat 0;").score(), 5);
@@ -285,7 +300,7 @@ final class RunEdges extends Edges {
             bestIs(STIFF + "beast 20 2 10 3 1;spin 5 4 8 6;", 11, 1, 1);
         });
         test(24, "a THROW could be let go", () -> {
-            // Only at TICK 5 the loop is wide enough: 35 of 25; but there it is KINKED, or not.
+            // Only at TICK 5 the loop is wide enough, 35 where 25 are needed; but there it is KINKED, or not.
             bestIs(SOFT + "beast 1 0 42 1 0;spin 40 4 9 0;", NONE, 0, 1);
             bestIs(SOFT + "beast 1 0 42 1 0;spin 5 4 9 4;", 11, 1, 1);
             // SHUT at TICK 2, the best ahead of that: SIZE 5 is enough for edge at TICK 1, where nothing is between.

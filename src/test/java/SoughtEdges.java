@@ -6,6 +6,7 @@ final class SoughtEdges extends Edges {
         eachMove();
         throwsOfRows();
         rowsThatAreShort();
+        rowsThatEndAnew();
         firstOfSeveral();
         fewestThatAreRefused();
         fewest();
@@ -150,6 +151,29 @@ final class SoughtEdges extends Edges {
             rowIs(atTen("beast 20 2 10 3 4;rule 5 8 7 2;"), 2, 8, 6, 0);
             rowIs(atTen("beast 20 2 10 3 4;rule 6 8 7 2;"), 2, 8, 0, 6);
         });
+        test(25, "as for SCORE, added", () -> {
+            // Two that are sure, at TICKS 5 and 6: both count, then one, then none.
+            String two = "horse 20 0 0;beast 1 0 1 1 0;beast 1 0 1 1 0;";
+            rowIs(atTen(two + "rule 6 5 0 0;"), 2, 10, 6, 8);
+            due(atTen(two + "rule 5 5 0 0;").moves(2, -1), 5);
+            due(atTen(two + "rule 4 5 0 0;").moves(2, -1), 0);
+            // By a SHAKE of 1 SPINS 10 and 11 are enough at D 20, 11 alone at 21.
+            rowIs(atTen("horse 0 0 1;beast 20 0 30 9 0;rule 99 5 7 2;"), 1, 5, 6);
+            rowIs(atTen("horse 0 0 1;beast 21 0 30 9 0;rule 99 5 7 2;"), 1, 0, 0);
+            // Three of seven are less than a half, four are more: 10, 11, 12, 13 at D 20; 11, 12, 13 at 21.
+            rowIs(atTen("horse 0 0 3;beast 20 0 30 9 0;rule 99 5 7 2;"), 1, 5, 6);
+            rowIs(atTen("horse 0 0 3;beast 21 0 30 9 0;rule 99 5 7 2;"), 1, 0, 0);
+        });
+        test(25, "SPIN will be", () -> {
+            // As fast as can be: 15. A flat from there is good, an edge from the first loop is not.
+            String text = HOPELESS + "beast 15 0 1 9 0;rule 99 1 50 0;";
+            SpunLoop x = spun(read(STIFF + text), 8, 2, 4, 6, 8, 10, 12, 14);
+            rowIs(x, 2, 1, 0, 8);
+            x.tick(0, 3, 0, 15);
+            due(x.now(1), 15);
+            rowIs(x, 1, 1, 8);
+            rowIs(x, 3, 1, 0, 0, 8);
+        });
         test(25, "(when fallen, too)", () -> {
             // KINKED, SHUT: a THROW misses, and the next is from a loop that begins anew.
             SpunLoop x = read(WET + "horse 20 0 0;beast 1 0 1 1 0;beast 1 0 1 1 0;rule 99 8 0 2;");
@@ -194,6 +218,57 @@ final class SoughtEdges extends Edges {
         });
     }
 
+    private static void rowsThatEndAnew() {
+        test(25, "where no MOVE can be made any more", () -> {
+            // A THROW now, the TICK behind which shuts the loop, and nothing more: no better than two TICKS ahead of it.
+            SpunLoop x = spun(read(SOFT + "beast 20 2 10 3 4;rule 99 5 0 0;"), 8, 2, 4, 6, 8, 10);
+            nowIs(x, 33, 10, 0, 30, 5, 0, 0);
+            rowIs(x, 1, 5, 6);
+            rowIs(x, 3, 5, 0, 0, 6);
+        });
+        test(25, "a ROW is shorter", () -> {
+            // Also where a longer one of much WORTH was sought before.
+            SpunLoop x = read(STIFF + "horse 20 0 0;" + "beast 1 0 1 1 0;".repeat(4) + "rule 99 5 0 0;");
+            x.close();
+            due(x.moves(4, -1), 20);
+            feed(x, WET + "beast 200 0 1 1 0;rule 99 8 7 2;");
+            x.way();
+            rowIs(x, 4, -2, 0, 6, 0);
+            x.tick(0, 2, 0, 0);
+            rowIs(x, 4, -2, 6, 0);
+        });
+        test(25, "ROW of n MOVES: its WORTH (i = -1)", () -> {
+            // However often it is asked, and in whatever order.
+            SpunLoop x = atTen("beast 20 2 10 3 4;rule 99 5 7 2;");
+            due(x.moves(2, 1), 7);
+            due(x.moves(2, -1), 7);
+            due(x.moves(2, -1), 7);
+            due(x.moves(1, 0), 7);
+            due(x.moves(1, -1), 7);
+            due(x.moves(2, 0), 0);
+        });
+        test(25, "THE LIVE LOOP goes by calls.", () -> {
+            // It is as it was, but for THE TICK: at SECONDS the THROW counts, behind it does not.
+            SpunLoop x = atTen("beast 20 2 10 3 4;rule 5 8 7 2;");
+            rowIs(x, 1, 8, 6);
+            x.tick(0, 2, 0, 10);
+            nowIs(x, 43, 10, 0, 40, 6, 0, 0);
+            rowIs(x, 1, 0, 0);
+            x = read(STIFF + "horse 20 0 0;beast 1 0 1 1 0;rule 1 8 7 2;");
+            rowIs(x, 1, 0, 0);
+            x.close();
+            rowIs(x, 1, 8, 6);
+            x.close();
+            nowIs(x, 20, 0, 0, 0, 2, 0, NONE);
+            rowIs(x, 1, 0, 0);
+            // Behind a THROW: the loop that a row of two was sought through.
+            x = atTen("beast 20 2 10 3 4;rule 99 5 7 2;");
+            due(x.moves(2, -1), 7);
+            x.hurl(0, 0);
+            rowIs(x, 2, 0, 0, 0);
+        });
+    }
+
     private static void firstOfSeveral() {
         test(25, "The ROW of the greatest WORTH, of several the first by its MOVES", () -> {
             // Equal: TICKS ahead of THROWS, flat ahead of edge, the lesser beast first.
@@ -218,6 +293,13 @@ final class SoughtEdges extends Edges {
             x.take(1, 0);
             rowIs(x, 2, -2, 0, 6);
             x.take(0, 0);
+            rowIs(x, 2, 8, 4, 6);
+            // Nor when a WAY is read, or an IMAGE is restored, whose first loop is the same.
+            x.image(0);
+            feed(x, "rope 400 9 0;horse 20 0 0;beast 1 0 1 1 0;rule 99 3 9 2;");
+            x.way();
+            rowIs(x, 2, 9, 0, 7);
+            x.restore(0);
             rowIs(x, 2, 8, 4, 6);
         });
     }
@@ -286,6 +368,16 @@ final class SoughtEdges extends Edges {
             due(x.fewest(193, 12), 8);
             due(x.fewest(194, 12), 9);
         });
+        test(26, "by MOVES 0 to 5 alone", () -> {
+            // An arm that turns by 12 at most keeps 179 open, not 180. From 173 by LET 4 and 8: 179, 191.
+            SpunLoop x = spun(read(SOFT), 8, 2, 4, 6, 8, 10, 12, 14, 15, 14, 14, 14, 14, 14, 13, 13);
+            spun(spun(x, 0, 13, 13), 2, 12);
+            nowIs(x, 173, 12, 0, 205, 18, 0, 0);
+            due(x.fewest(185, 12), 1);
+            due(x.fewest(186, 12), 2);
+            due(x.fewest(191, 12), 2);
+            due(x.fewest(191, 1), NONE);
+        });
         test(26, "ROOM at most", () -> {
             SpunLoop x = spun(read("rope 99 9 0;"), 8, 2, 4, 6, 8, 10);
             due(x.now(0), 43);
@@ -297,6 +389,10 @@ final class SoughtEdges extends Edges {
             // By the longest rope 200 is the ROOM, and can be had.
             x = spun(read(STIFF), 9, 2, 4, 6, 8, 10, 12, 14, 15, 14, 14, 14, 14, 14);
             due(x.fewest(200, 12) > 0 ? 1 : 0, 1);
+            x = spun(read(STIFF), 8, 2, 4, 6, 8, 10, 12, 14, 15, 14, 14, 14, 14, 14, 13, 13, 13);
+            due(x.now(0), 193);
+            due(x.fewest(200, 12), 1);
+            due(x.fewest(200, 0), NONE);
         });
         test(26, "FEWEST TICKS to a SIZE s", () -> {
             // SHUT, KINKED: as it is, or never.
@@ -687,6 +783,20 @@ final class SoughtEdges extends Edges {
             }
             due(x.act(0, 0), 5);
             due(x.score(), 5);
+        });
+        test(31, "keeps THE LIVE LOOP, ROPE, HORSE", () -> {
+            // All numbers of a rope: LENGTH 300, STIFF 4 (LIMIT 40), WET.
+            SpunLoop x = read("rope 40 8 0;rope 300 4 1;");
+            x.take(1, NONE);
+            x.image(0);
+            x.take(0, NONE);
+            due(x.need(0), 2);
+            x.restore(0);
+            due(x.need(0), 5);
+            due(x.piece(29), 0);
+            due(x.piece(30), BAD);
+            due(x.out(15, 2), 0);
+            due(x.out(15, 3), 2);
         });
         test(31, "All is as an IMAGE kept it", () -> {
             // A loop that was KINKED is so again, and its WHY is 4.

@@ -14,6 +14,7 @@ final class TextEdges extends Edges {
         waysThatStay();
         firstTaken();
         ruleOfNone();
+        fullWays();
         faultNumbers();
         signs();
         figures();
@@ -210,13 +211,14 @@ final class TextEdges extends Edges {
             due(x.odds(0, 0, 1), 7);
         });
         test(7, "(no HORSE told: LAG 0, NEAR 0, SHAKE 0)", () -> {
-            SpunLoop x = read("rope 400 9 0;horse 20 99 3;beast 30 0 1 1 0;");
-            feed(x, "rope 400 9 0;beast 30 0 1 1 0;");
+            // Nor is the horse of the way before: by its LAG nothing would be between, by its SHAKE 13 reached it.
+            SpunLoop x = read("rope 400 9 0;horse 20 0 3;beast 21 0 26 1 0;");
+            feed(x, "rope 400 9 0;beast 21 0 26 1 0;");
             x.way();
             spun(x, 8, 2, 4, 6, 8, 10);
-            // SHAKE 0: 1 by 1; LAG 0: FAR is 30 at TICK 5, so that t is 3.
+            due(x.odds(0, 0, 0), 0);
             due(x.odds(0, 0, 1), 1);
-            due(x.hurl(0, 0), -(43 - 18 - 1) - 1);
+            due(x.hurl(0, 0), 1);
         });
     }
 
@@ -277,7 +279,22 @@ final class TextEdges extends Edges {
             fault("roper 40 0 0;", 0, 1);
             fault("rop 40 0 0;", 0, 1);
             fault("ropes", 0, 1);
+            fault("ropez 40 0 0;", 0, 1);
+            fault("ropea 40 0 0;", 0, 1);
             fault("r", 0, 1);
+        });
+        test(8, "( 'spin' | 'stand' )", () -> {
+            // Each word by all of its letters: another one, one less, one more are none.
+            String[] words = {"rope", "horse", "beast", "form", "rule", "spin", "stand", "flat", "edge", "close"};
+            for (String word : words) {
+                String ahead = word.equals("rope") ? "" : ROPE;
+                for (int k = 0; k < word.length(); k++) {
+                    fault(ahead + word.substring(0, k) + "z" + word.substring(k + 1), ahead.length(), 1);
+                }
+                fault(ahead + word.substring(1), ahead.length(), 1);
+                fault(ahead + word.substring(0, word.length() - 1), ahead.length(), 1);
+                fault(ahead + word + "s", ahead.length(), 1);
+            }
         });
         test(8, "SIGNS ;", () -> {
             // The bytes beside it, and others that could end a thing.
@@ -526,6 +543,82 @@ final class TextEdges extends Edges {
             // Only the word has it, whatever stands behind it.
             fault(ROPE.repeat(3) + "rope 39 #", 36, 3);
             fault(ROPE.repeat(3) + " \n rope", 39, 3);
+        });
+    }
+
+    /** A text with as much of each sort as there is room for, no two of a sort alike. */
+    private static String fullText() {
+        StringBuilder text = new StringBuilder("rope 400 9 0;rope 300 4 1;rope 59 0 0;");
+        text.append("horse 0 0 0;horse 20 99 3;horse 4 0 1;");
+        text.append("beast 11 1 2 3 4;beast 22 5 6 7 8;beast 33 9 10 9 12;beast 40 0 30 1 0;");
+        for (int k = 0; k < 6; k++) {
+            text.append("form " + 2 * k + " " + 2 * k + " " + 20 * k + " " + 20 * k + ";");
+        }
+        text.append("rule 5 5 7 2;spin 5 4 8 6;flat 3;");
+        for (int k = 2; k <= 18; k++) {
+            text.append("spin " + k + " 1 " + k % 10 + " " + k % 16 + ";");
+        }
+        return text.append("edge 3;").toString();
+    }
+
+    private static void fullWays() {
+        test(7, "ROPES 0 .. 2", () -> {
+            SpunLoop x = read(fullText());
+            long[][] ropes = {{2, 39}, {5, 29}, {4, 4}};
+            for (int rope = 0; rope <= 2; rope++) {
+                x.take(rope, 0);
+                due(x.need(0), ropes[rope][0]);
+                due(x.piece((int) ropes[rope][1]) >= 0 ? 1 : 0, 1);
+                due(x.piece((int) ropes[rope][1] + 1), BAD);
+            }
+        });
+        test(7, "HORSES 0 .. 2", () -> {
+            // The last beast at TICK 5, SPIN 10: D is 40; 40, not less than its own; 20, where SPINS 10 and 11 are enough.
+            SpunLoop x = read(fullText());
+            long[][] odds = {{0, 1}, {0, 1}, {2, 3}};
+            for (int horse = 0; horse <= 2; horse++) {
+                x.take(0, horse);
+                spun(x, 8, 2, 4, 6, 8, 10);
+                due(x.odds(0, 3, 0), odds[horse][0]);
+                due(x.odds(0, 3, 1), odds[horse][1]);
+                due(x.score(), horse == 2 ? 5 : -2);
+            }
+        });
+        test(7, "BEASTS 0 .. 3", () -> {
+            SpunLoop x = spun(read(fullText()), 8, 2, 4, 6, 8, 10);
+            // t is 2, 5, 30 (of 33 by 1: none), 4.
+            long[] flat = {-(43 - 12 - 2) - 1, -(43 - 30 - 6) - 1, 500, 24 + 30 - 43};
+            x.image(0);
+            for (int beast = 0; beast <= 3; beast++) {
+                x.restore(0);
+                due(x.hurl(0, beast), flat[beast]);
+            }
+            x.restore(0);
+            due(x.odds(0, 0, 0), 2);
+            due(x.odds(0, 1, 0), 1);
+            due(x.odds(1, 0, 1), 3);
+            due(x.odds(1, 1, 1), 3);
+            due(x.odds(1, 3, 1), 1);
+        });
+        test(7, "FORMS 0 .. 5", () -> {
+            SpunLoop x = read(fullText());
+            due(x.show(-1), 6);
+            for (int k = 0; k < 6; k++) {
+                due(x.show(k), k);
+            }
+        });
+        test(7, "ACTS 0 .. 19", () -> {
+            SpunLoop x = read(fullText());
+            due(x.act(0, 0), 5);
+            due(x.act(1, 0), 3);
+            for (int k = 2; k <= 18; k++) {
+                long[] numbers = {k, 1, k % 10, k % 16};
+                for (int what = 0; what <= 3; what++) {
+                    due(x.act(k, what), numbers[what]);
+                }
+            }
+            due(x.act(19, 0), 3);
+            due(x.kind(19), 5);
         });
     }
 
