@@ -10,6 +10,7 @@ final class SoughtEdges extends Edges {
         firstOfSeveral();
         fewestThatAreRefused();
         fewest();
+        fewestThroughSmallLoopsAndTiredArms();
         shows();
         longestShows();
         learnsThatAreRefused();
@@ -409,6 +410,62 @@ final class SoughtEdges extends Edges {
             // A loop that lacks SPIN shrinks first; one that is SHUT on its way goes nowhere.
             due(read(SOFT).fewest(20, 0), 0);
             due(read(SOFT).fewest(21, 12), NONE);
+        });
+    }
+
+    private static void fewestThroughSmallLoopsAndTiredArms() {
+        test(26, "else by 5 times (stand: 3 times) what SPIN lacks of that less, 0 at least", () -> {
+            // NEED is 4, then 5 from 20 on. From 13 by SPINS 3 to 6: 8, 12, 17, 23.
+            SpunLoop x = spun(read(SOFT), 8, 2, 4, 6, 8, 10);
+            spun(x, 0, 8, 6, 4, 2);
+            nowIs(x, 13, 2, 0, 50, 9, 0, 2);
+            due(x.fewest(13, 12), 0);
+            due(x.fewest(14, 2), NONE);
+            due(x.fewest(14, 12), 3);
+            due(x.fewest(17, 12), 3);
+            due(x.fewest(18, 12), 4);
+            due(x.fewest(23, 12), 4);
+            due(x.fewest(24, 12), 5);
+        });
+        test(26, "0 at least", () -> {
+            // SIZE 2 and SPIN 1: 20, 15 and 10 less by UP 1, 2, 3, so all of them shut it.
+            SpunLoop x = read(SOFT);
+            due(x.tick(1, 3, 0, 1), 2);
+            nowIs(x, 2, 1, 0, 1, 1, 0, 2);
+            due(x.fewest(2, 12), 0);
+            due(x.fewest(3, 12), NONE);
+            due(x.fewest(19, 4), NONE);
+            due(x.fewest(19, 12), NONE);
+            due(x.fewest(200, 12), NONE);
+        });
+        test(26, "TOP at most: 15 less TIRED by 64, 1 at least", () -> {
+            // From 59 by a SPIN of 5 at most: 64, 69, 74, 79, 84, which 5 does not keep open.
+            SpunLoop x = spun(spun(read(STIFF), 8, 2, 4, 6, 8, 10, 10), 5, 10);
+            due(x.now(0), 59);
+            for (int k = 0; k < 90 && x.now(3) < 640; k++) {
+                long top = 15 - x.now(3) / 64;
+                spun(x, 0, (int) Math.min(top, x.now(1) + 1));
+            }
+            nowIs(x, 59, 6);
+            due(x.fewest(64, 12), 1);
+            due(x.fewest(65, 12), 2);
+            due(x.fewest(69, 12), 2);
+            due(x.fewest(70, 12), 3);
+            due(x.fewest(84, 12), 5);
+            due(x.fewest(85, 12), NONE);
+        });
+        test(26, "by n (0 to 12) at most; NONE.", () -> {
+            // Found by a search: ways that meet at the same SPIN and TIRED, of which the wider has to stay.
+            SpunLoop x = read("rope 395 9 1;");
+            int[] ups = {4, 4, 3, 3, 3, 4, 4, 1, 1, 2, 3, 3, 3, 1, 1, 2, 2, 2, 0};
+            int[] lets = {2, 0, 9, 1, 9, 3, 3, 8, 3, 3, 0, 8, 0, 9, 2, 3, 2, 6, 7};
+            for (int k = 0; k < ups.length; k++) {
+                x.tick(0, ups[k], lets[k], (int) x.now(1) + ups[k] - 2);
+            }
+            nowIs(x, 84, 8, 0, 164, 19, 0, 0);
+            due(x.fewest(187, 9), NONE);
+            due(x.fewest(187, 10), 10);
+            due(x.fewest(187, 12), 10);
         });
     }
 
